@@ -25,7 +25,8 @@ public final class Circuitfold {
     private final Matroid[] kept = new Matroid[MOST_MATROIDS];
     private int made;
 
-    // Two of each, as a check or a search must not disturb what a caller may still ask of the other one.
+    // Two of each: checking soundness must not disturb what is told of broken bases, nor a search for symmetries or
+    // minors the images that were found last.
     private final Exchange typedBases = new Exchange();
     private final Exchange checkedBases = new Exchange();
     private final Likeness pair = new Likeness();
@@ -1177,7 +1178,7 @@ public final class Circuitfold {
             return Integer.numberOfTrailingZeros(at(images, 1 << element));
         }
 
-        /** The number of isomorphisms to itself is the product of how many images each element has, those before it fixed. */
+        /** As many as the product of how many images each element has when those before it stay. */
         int symmetriesOf(Matroid matroid) {
             lookFor(matroid);
             System.arraycopy(wanted, 0, counts, 0, number);

@@ -4,7 +4,7 @@ import java.util.function.Supplier;
 /** Long random runs of calls, right and wrong ones, each answer compared with the reference. */
 public final class RandomRunsTest {
 
-    private static final int RUNS = Integer.getInteger("runs", 150);
+    private static final int RUNS = Integer.getInteger("runs", 300);
     private static final int CALLS = 512;
 
     private final Random random;
