@@ -1278,12 +1278,14 @@ public final class Circuitfold {
         }
 
         private boolean fits(int element, int image) {
-            if (at(profiles, element) != at(wantedProfiles, image)) {
+            if (element >= profiles.length || image >= wantedProfiles.length
+                    || profiles[element] != wantedProfiles[image]) {
                 return false;
             }
             int bit = 1 << element;
-            for (int set = 0; set < bit && set < images.length; set++) {
-                if (at(counts, set | bit) != at(wanted, images[set] | 1 << image)) {
+            for (int set = 0; set < bit && set + bit < counts.length; set++) {
+                int mapped = images[set] | 1 << image;
+                if (mapped >= wanted.length || counts[set + bit] != wanted[mapped]) {
                     return false;
                 }
             }
