@@ -53,9 +53,12 @@ final class BoundEdges extends Edges {
         is(13, greedy(triangle(), 7, 6, 7, 0));
         sentence(32, NO_MATROID);
         refusedMatroids(triangle(), Circuitfold::greedy);
-        refused(INDEX, () -> typed(houseOf(triangle()), 1, 2, 3, 4), asked -> asked.greedy(1));
-        refused(INDEX, () -> typed(full(triangle()), 1, 2, 3, 4), asked -> asked.greedy(-1));
-        refused(INDEX, () -> typed(full(triangle()), 1, 2, 3), asked -> asked.greedy(24));
+        for (int count : new int[] {0, 3, 4, 5, 10, 11, 60}) {
+            refused(INDEX, () -> typed(empty(), times(count, 1)), asked -> asked.greedy(0));
+            refused(INDEX, () -> typed(houseOf(triangle()), times(count, 1)), asked -> asked.greedy(1));
+            refused(INDEX, () -> typed(full(triangle()), times(count, 1)), asked -> asked.greedy(-1));
+            refused(INDEX, () -> typed(full(triangle()), times(count, 1)), asked -> asked.greedy(24));
+        }
     }
 
     private void rowsThatAreNoWeights() {

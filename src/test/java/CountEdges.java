@@ -59,7 +59,11 @@ final class CountEdges extends Edges {
         is("2x0y1 3x0y2 1x0y3 2x1y0 4x1y1 3x2y0 1x3y0", polynomial(completeGraph(4)));
         sentence(40, NO_MATROID);
         refusedMatroids(triangle(), (house, matroid) -> house.coefficient(matroid, 0, 0));
-        refusedMatroids(triangle(), (house, matroid) -> house.coefficient(matroid, 11, -1));
+        for (int power : NO_POWERS) {
+            refusedMatroids(triangle(), (house, matroid) -> house.coefficient(matroid, power, 0));
+            refusedMatroids(triangle(), (house, matroid) -> house.coefficient(matroid, 0, power));
+            refusedMatroids(triangle(), (house, matroid) -> house.coefficient(matroid, power, power));
+        }
     }
 
     /** Five edges without a ring, and five loops behind them. */
@@ -120,7 +124,11 @@ final class CountEdges extends Edges {
         }
         sentence(41, NO_MATROID);
         refusedMatroids(triangle(), (house, matroid) -> house.value(matroid, 0, 0));
-        refusedMatroids(triangle(), (house, matroid) -> house.value(matroid, 10, -10));
+        for (int number : NO_VALUES) {
+            refusedMatroids(triangle(), (house, matroid) -> house.value(matroid, number, 0));
+            refusedMatroids(triangle(), (house, matroid) -> house.value(matroid, 0, number));
+            refusedMatroids(triangle(), (house, matroid) -> house.value(matroid, number, number));
+        }
     }
 
     private void valuesOutOfRange() {
@@ -163,7 +171,9 @@ final class CountEdges extends Edges {
         is("-6 11 -6 1 0 0 0 0 0 0 0", others(completeGraph(4)));
         sentence(42, NO_MATROID);
         refusedMatroids(triangle(), (house, matroid) -> house.other(matroid, 0));
-        refusedMatroids(triangle(), (house, matroid) -> house.other(matroid, 11));
+        for (int power : NO_POWERS) {
+            refusedMatroids(triangle(), (house, matroid) -> house.other(matroid, power));
+        }
     }
 
     // ---- promises 43 to 46

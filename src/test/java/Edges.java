@@ -12,6 +12,8 @@ abstract class Edges {
     static final Class<NoSuchElementException> NONE = NoSuchElementException.class;
     static final Class<ArithmeticException> ARITHMETIC = ArithmeticException.class;
 
+    /** Sets that no matroid has, or not each one. */
+    static final int[] STRANGE_SETS = {-1, 0, 1, 7, 15, 16, 1023, 1024, 65536, Integer.MIN_VALUE, Integer.MAX_VALUE};
     static final int LEAST = Integer.MIN_VALUE;
     static final int GREATEST = Integer.MAX_VALUE;
 

@@ -57,8 +57,9 @@ final class FaceEdges extends Edges {
         is(1, houseOf(nineAndOne()).rank(0, 512));
         is(9, houseOf(nineAndOne()).rank(0, 1023));
         sentence(19, NO_MATROID);
-        refusedMatroids(triangle(), (house, matroid) -> house.rank(matroid, 0));
-        refusedMatroids(triangle(), (house, matroid) -> house.rank(matroid, 16));
+        for (int set : STRANGE_SETS) {
+            refusedMatroids(triangle(), (house, matroid) -> house.rank(matroid, set));
+        }
         sentence(19, OTHER_ELEMENTS);
         for (int size : new int[] {0, 1, 5, 9, 10}) {
             refusedSets(() -> houseOf(uniform(size / 2, size)), size, (house, set) -> house.rank(0, set));
@@ -85,8 +86,9 @@ final class FaceEdges extends Edges {
             is((1 << size) - 1, house.closure(0, (1 << size) - 1));
         }
         sentence(20, NO_MATROID);
-        refusedMatroids(triangle(), (house, matroid) -> house.closure(matroid, 0));
-        refusedMatroids(triangle(), (house, matroid) -> house.closure(matroid, 16));
+        for (int set : STRANGE_SETS) {
+            refusedMatroids(triangle(), (house, matroid) -> house.closure(matroid, set));
+        }
         sentence(20, OTHER_ELEMENTS);
         for (int size : new int[] {0, 1, 5, 9, 10}) {
             refusedSets(() -> houseOf(uniform(size / 2, size)), size, (house, set) -> house.closure(0, set));
@@ -121,7 +123,9 @@ final class FaceEdges extends Edges {
         is("38 16 7 15 7", counts(completeGraph(4)));
         sentence(21, NO_MATROID);
         refusedMatroids(triangle(), (house, matroid) -> house.count(matroid, 'i'));
-        refusedMatroids(triangle(), (house, matroid) -> house.count(matroid, 'x'));
+        for (char sort : NO_SORTS) {
+            refusedMatroids(triangle(), (house, matroid) -> house.count(matroid, sort));
+        }
     }
 
     private void sortsThatAreNotThere() {
@@ -158,9 +162,12 @@ final class FaceEdges extends Edges {
         is(1023, houseOf(uniform(10, 10)).setAt(0, 'i', 1023));
         is(512, houseOf(uniform(10, 10)).setAt(0, 'i', 512));
         sentence(22, NO_MATROID);
-        refusedMatroids(triangle(), (house, matroid) -> house.setAt(matroid, 'i', 0));
-        refusedMatroids(triangle(), (house, matroid) -> house.setAt(matroid, 'x', 0));
-        refusedMatroids(triangle(), (house, matroid) -> house.setAt(matroid, 'i', -1));
+        for (int index : new int[] {0, -1, 14, 1024, LEAST, GREATEST}) {
+            refusedMatroids(triangle(), (house, matroid) -> house.setAt(matroid, 'i', index));
+            for (char sort : NO_SORTS) {
+                refusedMatroids(triangle(), (house, matroid) -> house.setAt(matroid, sort, index));
+            }
+        }
     }
 
     private void setsBehindTheLast() {
@@ -203,8 +210,11 @@ final class FaceEdges extends Edges {
         is(38, houseOf(completeGraph(4)).circuitWith(0, 7, 5));
         sentence(23, NO_MATROID_OR_ELEMENT);
         refusedMatroids(triangle(), (house, matroid) -> house.circuitWith(matroid, 11, 2));
-        refusedMatroids(triangle(), (house, matroid) -> house.circuitWith(matroid, 7, 4));
         refusedMatroids(triangle(), (house, matroid) -> house.circuitWith(matroid, 11, 0));
+        for (int set : STRANGE_SETS) {
+            refusedMatroids(triangle(), (house, matroid) -> house.circuitWith(matroid, set, 2));
+            refusedMatroids(triangle(), (house, matroid) -> house.circuitWith(matroid, set, 4));
+        }
         for (Maker maker : new Maker[] {uniform(0, 0), uniform(1, 1), triangle(), uniform(9, 10), uniform(10, 10)}) {
             int basis = houseOf(maker).setAt(0, 'b', 0);
             int size = houseOf(maker).size(0);

@@ -506,24 +506,44 @@ final class GivenEdges extends Edges {
         is("3 12 1", told(after(after(brokenHouse(), 6, 7, 56), 4, 3, 12, 10)));
         is("3 12 0", told(after(after(empty(), 4, 3), 4, 12, 3)));
         Circuitfold house = brokenHouse();
-        house.type(1);
-        house.type(2);
-        house.graph();
-        house.uniform(2, 4);
-        house.meeting(3);
-        house.columns(2, 1);
-        house.dual(1);
-        house.relax(triangleIn(house), 7);
-        house.isSound();
-        house.symmetries(1);
-        house.areAlike(0, 1);
-        house.binaryShare();
-        Due.outcome(() -> house.bases(11));
-        house.erase();
-        is("3 12 0", told(house));
+        for (Call call : everyOtherCall()) {
+            Due.outcome(() -> call.on(house));
+            is("3 12 0", told(house));
+            Circuitfold full = breakIn(full(triangle(), fano()));
+            Due.outcome(() -> call.on(full));
+            is("3 12 0", told(full));
+            Circuitfold held = after(brokenHouse(), 2, 1);
+            Due.outcome(() -> call.on(held));
+            is(NONE.toString(), told(held));
+        }
+        is(13, house.matroids());
     }
 
-    private static int triangleIn(Circuitfold house) {
-        return typed(house, 0, 1, 1, 2, 2, 0, 2, 3).graph();
+    /** Calls of all methods but bases, of which some are refused; the first ones make a triangle and a plane. */
+    private static List<Call> everyOtherCall() {
+        return List.of(house -> typed(house, 0, 1, 1, 2, 2, 0, 2, 3).graph(), GivenEdges::withPlane,
+                house -> house.type(3), Circuitfold::graph, Circuitfold::erase, house -> house.type(-1),
+                house -> house.uniform(2, 4), house -> house.uniform(4, 2), house -> house.meeting(3),
+                house -> house.meeting(11), house -> house.columns(2, 1), house -> house.columns(4, 1),
+                house -> house.bases(11), house -> house.bases(-1), house -> house.broken('a'),
+                house -> house.broken('c'), house -> house.dual(0), house -> house.delete(0, 1),
+                house -> house.contract(0, 1), house -> house.sum(0, 0), house -> house.union(0, 0),
+                house -> house.truncate(0), house -> house.relax(0, 7), house -> house.extend(0, 3),
+                house -> house.size(0), house -> house.rank(0, 3), house -> house.closure(0, 3),
+                house -> house.count(0, 'i'), house -> house.setAt(0, 'i', 0), house -> house.circuitWith(0, 11, 2),
+                house -> house.component(0, 0), house -> house.areAlike(0, 1), house -> house.image(0, 0, 1),
+                house -> house.symmetries(0), house -> house.minorBy(1, 1), house -> house.minorWithout(1, 1),
+                house -> house.canBeDrawn(0, 2), house -> house.entry(0, 3, 0, 0),
+                house -> typed(house, 1, 2, 3, 4).greedy(0), house -> house.common(0, 0),
+                house -> house.commonSet(0, 0), house -> house.commonBound(0, 0), house -> house.cover(0),
+                house -> house.coverBound(0), house -> house.packing(0), house -> house.packingBound(0),
+                house -> house.coefficient(0, 1, 1), house -> house.value(0, 2, 2), house -> house.other(0, 1),
+                Circuitfold::matroids, Circuitfold::binaryShare, Circuitfold::meanBases, Circuitfold::isSound,
+                house -> house.size(24), house -> house.cover(-1), house -> house.greedy(0), house -> house.sum(1, 1));
+    }
+
+    private static int withPlane(Circuitfold house) {
+        fano().in(house);
+        return house.matroids();
     }
 }

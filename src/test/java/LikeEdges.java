@@ -54,10 +54,25 @@ final class LikeEdges extends Edges {
         asksPair(25, triangle(), triangleBehind(), true, Circuitfold::areAlike);
         asksPair(25, triangle(), uniform(3, 4), false, Circuitfold::areAlike);
         sentence(25, "Returns whether they have.");
+        everyPairInOneHouse();
         is(false, areAlike(triangle(), graph(0, 1, 0, 1, 1, 2, 2, 3)));
         is(true, areAlike(graph(0, 1, 1, 2, 2, 3, 0, 1), graph(0, 1, 0, 1, 1, 2, 2, 3)));
         sentence(25, NO_MATROID_EITHER);
         refusedPairs(triangle(), Circuitfold::areAlike);
+    }
+
+    /** One after another, forwards and backwards, so that no answer is that of the pair before. */
+    private void everyPairInOneHouse() {
+        Maker[] makers = {triangle(), uniform(3, 4), triangleBehind(), uniform(0, 0), uniform(1, 2), uniform(3, 4)};
+        int[] kinds = {0, 1, 0, 2, 3, 1};
+        Circuitfold house = houseOf(makers);
+        for (int step = 0; step < 72; step++) {
+            int pair = step < 36 ? step : 71 - step;
+            int first = pair / 6;
+            int second = pair % 6;
+            is(kinds[first] == kinds[second], house.areAlike(first, second));
+            is(kinds[second] == kinds[first], house.areAlike(second, first));
+        }
     }
 
     private static String images(Maker maker, Maker other) {
@@ -230,7 +245,10 @@ final class LikeEdges extends Edges {
         is(true, isDrawn(3, completeGraph(5)));
         sentence(30, NO_MATROID);
         refusedMatroids(triangle(), (house, matroid) -> house.canBeDrawn(matroid, 2));
-        refusedMatroids(triangle(), (house, matroid) -> house.canBeDrawn(matroid, 5));
+        refusedMatroids(triangle(), (house, matroid) -> house.canBeDrawn(matroid, 3));
+        for (int field : NO_FIELDS) {
+            refusedMatroids(triangle(), (house, matroid) -> house.canBeDrawn(matroid, field));
+        }
     }
 
     private void fieldsThatAreNotThere() {
@@ -275,8 +293,12 @@ final class LikeEdges extends Edges {
 
     private void entriesThatAreNotThere() {
         sentence(31, NO_MATROID_OR_ELEMENT);
-        refusedMatroids(triangle(), (house, matroid) -> house.entry(matroid, 2, 0, 0));
-        refusedMatroids(triangle(), (house, matroid) -> house.entry(matroid, 5, 9, 4));
+        for (int row : new int[] {0, -1, 3, 10, LEAST, GREATEST}) {
+            refusedMatroids(triangle(), (house, matroid) -> house.entry(matroid, 2, row, 0));
+            refusedMatroids(triangle(), (house, matroid) -> house.entry(matroid, 3, row, 4));
+            refusedMatroids(triangle(), (house, matroid) -> house.entry(matroid, 5, row, 0));
+            refusedMatroids(uniform(2, 5), (house, matroid) -> house.entry(matroid, 0, row, -1));
+        }
         for (Maker maker : new Maker[] {uniform(0, 0), uniform(0, 1), uniform(2, 5), triangle(), uniform(10, 10)}) {
             int size = houseOf(maker).size(0);
             for (int field : new int[] {2, 3, 5}) {

@@ -219,9 +219,9 @@ final class MadeEdges extends Edges {
                 house -> house.relax(0, 512)));
         makes(16, triangle(), "4: 7 11 13 14", (house, matroid) -> house.relax(matroid, 7));
         sentence(16, NO_MATROID);
-        refusedMatroids(triangle(), (house, matroid) -> house.relax(matroid, 7));
-        refusedMatroids(triangle(), (house, matroid) -> house.relax(matroid, 16));
-        refusedMatroids(triangle(), (house, matroid) -> house.relax(matroid, 1));
+        for (int set : STRANGE_SETS) {
+            refusedMatroids(triangle(), (house, matroid) -> house.relax(matroid, set));
+        }
     }
 
     private void setsThatAreNotRelaxed() {
@@ -280,9 +280,10 @@ final class MadeEdges extends Edges {
         is("5: 11 13 14 19 21 22 25 26 28", made(triangle(), house -> house.extend(0, 15)));
         makes(17, triangle(), "5: 11 13 14 19 21 22", (house, matroid) -> house.extend(matroid, 8));
         sentence(17, NO_MATROID);
-        refusedMatroids(triangle(), (house, matroid) -> house.extend(matroid, 0));
-        refusedMatroids(triangle(), (house, matroid) -> house.extend(matroid, 16));
-        refusedMatroids(uniform(1, 10), (house, matroid) -> house.extend(matroid, 1024));
+        for (int set : STRANGE_SETS) {
+            refusedMatroids(triangle(), (house, matroid) -> house.extend(matroid, set));
+            refusedMatroids(uniform(1, 10), (house, matroid) -> house.extend(matroid, set));
+        }
     }
 
     private void extensionsThatAreRefused() {
