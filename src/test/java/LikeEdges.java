@@ -75,6 +75,22 @@ final class LikeEdges extends Edges {
         }
     }
 
+    /** What a house answers of minors is what a new house answers, whatever was asked before. */
+    private void everyMinorInOneHouse() {
+        Maker[] makers = {graph(0, 1, 1, 2, 2, 3, 3, 4, 4, 5, 5, 6, 6, 7, 7, 8, 8, 9, 8, 9), uniform(9, 9),
+            uniform(1, 10), uniform(1, 9), uniform(2, 4), completeGraph(4), uniform(1, 2), nineAndOne()};
+        Circuitfold house = houseOf(makers);
+        for (int pair = 0; pair < 64; pair++) {
+            int first = pair / 8;
+            int second = pair % 8;
+            Circuitfold fresh = houseOf(makers[first], makers[second]);
+            is(Due.outcome(() -> fresh.minorBy(0, 1)), Due.outcome(() -> house.minorBy(first, second)));
+            is(Due.outcome(() -> fresh.symmetries(1)), Due.outcome(() -> house.symmetries(second)));
+            is(Due.outcome(() -> fresh.image(1, 1, 1)), Due.outcome(() -> house.image(second, second, 1)));
+            is(Due.outcome(() -> fresh.minorWithout(0, 1)), Due.outcome(() -> house.minorWithout(first, second)));
+        }
+    }
+
     private static String images(Maker maker, Maker other) {
         Circuitfold house = houseOf(maker, other);
         StringBuilder text = new StringBuilder();
@@ -170,6 +186,7 @@ final class LikeEdges extends Edges {
             asksMinor(promise, triangle(), uniform(1, 2), isBy ? 9 : 0);
             asksMinor(promise, completeGraph(4), uniform(1, 2), isBy ? 3 : 12);
             asksMinor(promise, triangle(), uniform(3, 3), isBy ? 0 : 1);
+            everyMinorInOneHouse();
             sentence(promise, NO_MATROID_EITHER);
             refusedPairs(triangle(), isBy ? Circuitfold::minorBy : Circuitfold::minorWithout);
         }
